@@ -384,7 +384,7 @@ public final class ShadeBench {
 
         private void readWord() {
             word = 0;
-            while (isLetter(byteAt(at)) || isDigit(byteAt(at))) {
+            while (at < lineEnd && (isLetter(text[at]) || isDigit(text[at]))) {
                 word = word << 8 | text[at];
                 at++;
             }
@@ -510,7 +510,7 @@ public final class ShadeBench {
                 return false;
             }
             int from = 0;
-            while (from < length) {
+            while (from < length && line < LINE_LIMIT) {
                 int to = endOfLine(text, from, length);
                 line++;
                 scanner.openLine(text, from, to);
@@ -986,7 +986,7 @@ public final class ShadeBench {
             }
         }
 
-        void spread(Datum datum, int from, int count) {
+        void repeat(Datum datum, int from, int count) {
             for (int i = 0; i < count; i++) {
                 putByte(from + i, datum.bits, datum.shade, datum.origin);
             }
@@ -1001,7 +1001,7 @@ public final class ShadeBench {
         }
 
         boolean isSetWord(int from) {
-            return firstDoubtful(from, 4) == NONE;
+            return holds(from, 4) && firstDoubtful(from, 4) == NONE;
         }
 
         int wordAt(int from) {
@@ -1204,7 +1204,8 @@ public final class ShadeBench {
             }
             followWords(Memory.GLOBALS, Memory.GLOBALS_SIZE, 0, stage, heap, memory);
             followWords(Memory.STACK, Memory.STACK_SIZE, 0, stage, heap, memory);
-            for (int i = 0; i < queued; i++) {
+            // The queue grows meanwhile, by each block once.
+            for (int i = 0; i < queued && i < queue.length; i++) {
                 int n = queue[i];
                 followWords(heap.addresses[n], heap.sizes[n], n, stage, heap, memory);
             }
@@ -1825,7 +1826,7 @@ public final class ShadeBench {
             if (!isCount(b.bits)) {
                 trap(BAD_COUNT);
             } else if (isValid(to, b.bits)) {
-                memory.spread(a, to, b.bits);
+                memory.repeat(a, to, b.bits);
             }
         }
 
