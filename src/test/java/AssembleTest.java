@@ -8,6 +8,7 @@ public final class AssembleTest {
         labels();
         begins();
         programBeforeStays();
+        nothingOfOlderTexts();
         limits();
         Check.close();
     }
@@ -124,6 +125,27 @@ public final class AssembleTest {
         Check.due("INPUT counts on", x.input(13), 3);
         Check.due("suppressions count on", x.suppress(3, 0, 5), 2);
         Check.due("the FILLING stays", x.output(0), Check.filling(7, 1)[0]);
+    }
+
+    private static void nothingOfOlderTexts() {
+        ShadeBench x = new ShadeBench();
+        for (int i = 0; i < 4; i++) {
+            Check.feed(x, "a: xor r1, r2, 6\nb: xor r3, r4, r6\njmp a");
+            Check.due("the same labels " + i, x.assemble(), 3);
+            Check.due("first of INPUT " + i, x.input(9), 1);
+            Check.due("second of INPUT " + i, x.input(9), 2);
+        }
+        Check.feed(x, "halt\njmp a");
+        Check.due("a label of an older text", x.assemble(), Check.NONE);
+        Check.due("its fault", x.fault(0), 4);
+        Check.due("its line", x.fault(2), 2);
+        Check.feed(x, "xor r1, r2, r6\nnot r3, r4\nin r5\nhalt");
+        Check.due("registers where numbers were", x.assemble(), 4);
+        x.run(9);
+        int[] f = Check.filling(0, 7);
+        Check.register(x, "xor", 1, f[2] ^ f[6], -1, 7);
+        Check.register(x, "not", 3, ~f[4], -1, 5);
+        Check.register(x, "in", 5, -1, 0, 0);
     }
 
     private static void limits() {

@@ -56,6 +56,26 @@ public final class BeginTest {
         Check.due("anew: block(1, 0)", x.block(1, 0), Check.NONE);
         x.run(20);
         Check.due("the first block again", x.block(1, 0), 1032);
+        ShadeBench y = Check.bench(3, 0, "call a", "halt", "a: li r1, 1", "ret", "ret");
+        y.run(2);
+        y.begin(3, 0);
+        y.run(3);
+        Check.due("calls are kept anew", y.state(0), 3 - 2);
+        Check.feed(y, "call a\na: halt");
+        y.assemble();
+        y.run(1);
+        y.begin(0, 0);
+        Check.feed(y, "ret\nhalt");
+        y.assemble();
+        y.run(1);
+        Check.due("no call is kept", y.state(1), 1);
+        ShadeBench z = Check.bench(3, 0, "new r1, 300", "new r2, 200", "free r1", "free r2", "halt");
+        for (int i = 0; i < 3; i++) {
+            z.begin(i, 0);
+            z.run(9);
+            Check.due("KEPT anew", z.block(1, 2), 1);
+            Check.due("KEPT anew", z.block(2, 2), 1);
+        }
     }
 
     private static void inputs() {

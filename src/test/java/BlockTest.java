@@ -98,6 +98,11 @@ public final class BlockTest {
         x.run(1);
         Check.register(x, "block 101", 1, 0, 0, 0);
         Check.due("100 were made still", x.state(7), 100);
+        ShadeBench y = Check.bench(FILLING, 0, "li r2, 0", "a: mv r1, r2", "new r2, 0", "bne r2, 0, a", "halt");
+        y.run(1000);
+        Check.due("100 are IN USE", y.block(100, 2), 2);
+        Check.due("the last is REACHED", y.block(100, 5), 3);
+        Check.due("the one before is LOST", y.block(99, 5), 0);
     }
 
     private static void freed() {
@@ -210,6 +215,15 @@ public final class BlockTest {
         leaks(z, "PERHAPS in two ways", 2, 2);
         ShadeBench w = Check.ran(FILLING, 0, "zero r1, 8", "new r2, 0", "add r2, r2, 1", "halt");
         leaks(w, "a block of size 0 has no inside", 3, 0);
+        ShadeBench v = Check.bench(FILLING, 0, "new r0, 8", "add r0, r0, 7", "add r0, r0, 1", "sub r0, r0, 9", "halt");
+        v.run(1);
+        leaks(v, "r0", 3);
+        v.run(1);
+        leaks(v, "the last byte", 2);
+        v.run(1);
+        leaks(v, "behind it", 0);
+        v.run(1);
+        leaks(v, "ahead of it", 0);
     }
 
     private static void beneath() {
@@ -247,6 +261,10 @@ public final class BlockTest {
         leaks(y, "in a set register", 3);
         y.run(9);
         leaks(y, "in a register with a SHADE", 0);
+        ShadeBench w = Check.bench(FILLING, 0, "new r1, 8", "li r0, 256", "or r2, r1, 0", "xor r1, r1, 0x10000", "sw r1, r0, 0",
+                "xor r1, r2, 0x1000000", "sw r1, r0, 4", "sw r2, r0, 8", "li r2, 0", "sb r2, r0, 8", "halt");
+        w.run(20);
+        leaks(w, "other words", 0);
         ShadeBench z = Check.ran(FILLING, 0, "new r1, 8", "push r1", "li r1, 0", "add r7, r7, 4", "halt");
         leaks(z, "below r7", 0);
     }

@@ -53,6 +53,8 @@ public final class FaultTest {
         fault("li r1, -0x1", 1, 7, 1);
         fault("li r1, 5a", 1, 7, 1);
         fault("li r1, 5Z", 1, 7, 1);
+        fault("li r1, 5A", 1, 7, 1);
+        fault("li r1, 5z", 1, 7, 1);
         fault("li r1, 0xfg", 1, 7, 1);
         fault("foo $", 1, 4, 1);
         fault("liB r1, 5", 1, 2, 1);

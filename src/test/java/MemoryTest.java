@@ -177,6 +177,10 @@ public final class MemoryTest {
         Check.due("open, as r7 says", x.memory(4010, 3), 1);
         Check.due("of the ORIGIN then", x.memory(4010, 2), 517);
         Check.due("closed, as r7 says", x.memory(3990, 3), 0);
+        ShadeBench y = Check.ran(FILLING, 0, "li r1, 3070", "mark r1, 4, 2", "li r7, 4096", "halt");
+        Check.due("ahead of the STACK", y.memory(3071, 3), 1);
+        Check.due("its beginning", y.memory(3072, 3), 0);
+        Check.due("its beginning", y.memory(3073, 3), 0);
     }
 
     private static void copies() {
@@ -244,6 +248,18 @@ public final class MemoryTest {
         Check.memory(x, "mark 2 of the stack", 4095, 0, 0, 0, 1);
         Check.due("QUIET", x.state(9), 1);
         Check.due("halted", x.state(1), 1);
+        ShadeBench z = Check.ran(FILLING, 0, "li r1, 0", "mark r1, 2, 2", "li r1, 4094", "mark r1, 2, 2", "halt");
+        ShadeBench w = Check.ran(FILLING, 0, "li r1, 256", "mark r1, 3, 0", "li r1, 300", "li r2, 0x04030201", "sw r2, r1, 0",
+                "mark r1, 3, 2", "halt");
+        Check.memory(w, "the last that is CLOSED", 258, 0, 0, 0, 0);
+        Check.memory(w, "the one behind", 259, 0, 0, 0, 1);
+        for (int i = 0; i < 4; i++) {
+            Check.memory(w, "bits stay", 300 + i, i + 1, 0, 0, 1);
+        }
+        Check.memory(z, "the first byte", 0, 0, 0, 0, 1);
+        Check.memory(z, "the second byte", 1, 0, 0, 0, 1);
+        Check.memory(z, "the third byte", 2, 0, 255, 0, 0);
+        Check.memory(z, "the last byte", 4095, 0, 0, 0, 1);
         ShadeBench y = Check.ran(FILLING, 0, "mark r1, r2, 5");
         Check.report(y, "ADDRESS", 0, 2, 0, 2, 1);
         Check.report(y, "SIZE", 1, 5, 0, 3, 1);

@@ -95,5 +95,10 @@ public final class ReportTest {
         ShadeBench y = Check.ran(0, 0, "new r1, 6", "lw r3, r1, 4", "lw r3, r1, 3", "halt");
         Check.report(y, "the first such byte", 0, 6, 1, 1, 1);
         Check.due("both in the SPAN", y.state(3), 2);
+        ShadeBench z = Check.ran(0, 0, "new r1, 8", "new r2, 8", "li r3, 1040", "mark r3, 8, 2", "lw r4, r3, 6", "lw r4, r3, -16",
+                "lw r4, r3, -17", "halt");
+        Check.report(z, "the first such byte", 0, 6, 4, 2, 1);
+        Check.report(z, "the first byte of the HEAP", 1, 6, 5, 1, 1);
+        Check.report(z, "the byte ahead of the HEAP", 2, 6, 6, 0, 1);
     }
 }

@@ -154,6 +154,9 @@ public final class RulesTest {
         Check.due("of a alone", x.register(1, 2), 1);
         Check.due("of b alone", x.register(0, 2), 4);
         Check.due("of b, a is set", x.register(3, 2), 5);
+        ShadeBench y = Check.ran(FILLING, 0, "xor r6, r1, r5", "not r0, r1", "xor r6, r1, r5", "sxh r4, r1", "halt");
+        Check.due("of one operand, not of what was before", y.register(0, 2), 2);
+        Check.due("of one operand, not of what was before", y.register(4, 2), 2);
     }
 
     private static void division() {
