@@ -60,7 +60,7 @@ public final class BeginTest {
         y.run(2);
         y.begin(3, 0);
         y.run(3);
-        Check.due("calls are kept anew", y.state(0), 3 - 2);
+        Check.due("calls are kept anew", y.state(0), 1);
         Check.feed(y, "call a\na: halt");
         y.assemble();
         y.run(1);

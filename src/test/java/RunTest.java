@@ -108,7 +108,7 @@ public final class RunTest {
         trapOf(2, 0, "pop r1");
         trapOf(2, 1, "li r7, 3075", "push r1");
         trapOf(2, 0, "new r7, 4");
-        trapOf(3, 0 + 32, deepCalls(33));
+        trapOf(3, 32, deepCalls(33));
         trapOf(4, 2, "li r1, 256", "li r2, 256", "copy r1, r2, 257");
         trapOf(4, 2, "li r1, 256", "li r2, 256", "fill r1, r2, -1");
         trapOf(4, 1, "li r1, 256", "mark r1, 257, 1");
