@@ -309,10 +309,6 @@ public final class ShadeBench {
             inputCount = 0;
         }
 
-        int operand(int at, int k) {
-            return operands[at * OPERANDS + k];
-        }
-
         void setOperand(int at, int k, int value) {
             operands[at * OPERANDS + k] = value;
         }
@@ -1545,7 +1541,7 @@ public final class ShadeBench {
         }
 
         private int operand(int k) {
-            return program.operand(at, k);
+            return program.operands[at * Program.OPERANDS + k];
         }
 
         private Datum registerOf(int k) {
