@@ -684,6 +684,7 @@ public final class ShadeBench {
     /** What each instruction makes of values, and of their shades. */
     private static final class Rules {
         private static final int SHIFT_BITS = 31;
+        private static final int SIGN = 1 << 31;
 
         static int value(int op, int a, int b) {
             switch (op) {
@@ -762,7 +763,7 @@ public final class ShadeBench {
                 case Op.NE:
                     return shadeOfEqual(a, b, fine);
                 case Op.LT:
-                    return shadeOfBelow(a, b, Integer.MIN_VALUE, fine);
+                    return shadeOfBelow(a, b, SIGN, fine);
                 case Op.LTU:
                     return shadeOfBelow(a, b, 0, fine);
                 default:
@@ -798,7 +799,7 @@ public final class ShadeBench {
         }
 
         private static boolean isBelow(int a, int b) {
-            return a + Integer.MIN_VALUE < b + Integer.MIN_VALUE;
+            return a + SIGN < b + SIGN;
         }
 
         private static boolean isSetZero(Datum d) {

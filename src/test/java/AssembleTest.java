@@ -14,9 +14,7 @@ public final class AssembleTest {
     }
 
     private static int count(String text) {
-        ShadeBench x = new ShadeBench();
-        Check.feed(x, text);
-        return x.assemble();
+        return Check.count(text);
     }
 
     private static void everyInstruction() {
@@ -91,11 +89,11 @@ public final class AssembleTest {
         x.suppress(0, 0, 9);
         x.begin(9, 1);
         x.run(1);
-        Check.feed(x, "add r1, r0, r0\nout r0\nin r2");
-        Check.due("assemble() anew", x.assemble(), 3);
+        Check.feed(x, "and r1, r1, 1\nadd r1, r1, 0\nout r0\nin r2");
+        Check.due("assemble() anew", x.assemble(), 4);
         Check.due("the FILLING is 0 again", x.register(0, 0), Check.filling(0, 1)[0]);
         Check.due("no STEPS", x.state(2), 0);
-        x.run(3);
+        x.run(4);
         Check.due("the MODE is 0 again", x.register(1, 1), -1);
         Check.due("no suppressions", x.state(4), 1);
         Check.due("nothing is suppressed", x.state(5), 0);

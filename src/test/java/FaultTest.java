@@ -12,13 +12,7 @@ public final class FaultTest {
     }
 
     private static void fault(String text, int fault, int place, int line) {
-        ShadeBench x = new ShadeBench();
-        Check.feed(x, text);
-        String name = text.length() > 60 ? text.length() + " bytes" : text.replace("\n", "\\n");
-        Check.due("assemble() of " + name, x.assemble(), Check.NONE);
-        Check.due("fault(0) of " + name, x.fault(0), fault);
-        Check.due("fault(1) of " + name, x.fault(1), place);
-        Check.due("fault(2) of " + name, x.fault(2), line);
+        Check.fault(text, fault, place, line);
     }
 
     private static void noFault() {

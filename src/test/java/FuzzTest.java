@@ -12,7 +12,7 @@ public final class FuzzTest {
 
     public static void main(String[] args) {
         FuzzTest fuzz = new FuzzTest();
-        for (int i = 0; i < 400; i++) {
+        for (int i = 0; i < 1000; i++) {
             fuzz.anyBytes();
             fuzz.anyProgram();
         }
@@ -107,12 +107,12 @@ public final class FuzzTest {
             x.input(number());
         }
         x.begin(filling, random.nextInt(2));
-        for (int i = 0; i < 4; i++) {
+        for (int i = random.nextInt(4); i >= 0; i--) {
             x.run(random.nextInt(200));
-            whatAlwaysHolds(x, text.toString());
         }
+        whatAlwaysHolds(x, text.toString());
         Check.due("the twin by the same FILLING of " + text, x.twin(filling), x.state(8));
-        for (int i = 0; i < 200; i++) {
+        for (int i = 0; i < 150; i++) {
             anyCall(x);
         }
     }
@@ -127,12 +127,15 @@ public final class FuzzTest {
         Check.due("r7 is set: " + text, x.register(7, 1), 0);
         Check.due("r7 is in the STACK: " + text, pointer >= 3072 && pointer <= 4096, true);
         int counted = 0;
-        for (int k = 0; k < x.state(3); k++) {
+        int kept = x.state(3);
+        for (int k = 0; k < kept; k++) {
             counted += x.report(k, 3);
         }
-        Check.due("COUNTS: " + text, x.state(3) == 60 || counted == x.state(4), true);
+        Check.due("COUNTS: " + text, kept == 60 || counted == x.state(4), true);
         Check.due("QUIET: " + text, x.state(9) == 1, x.state(4) == 0);
-        for (int n = 1; n <= x.state(7); n++) {
+        // An object is promised 512 calls alone, so not all blocks can be asked for.
+        int made = Math.min(x.state(7), 30);
+        for (int n = 1; n <= made; n++) {
             Check.due("LEAKS: " + text, x.block(n, 5) != Check.NONE, x.block(n, 2) == 2);
             Check.due("freed by: " + text, x.block(n, 4) == Check.NONE, x.block(n, 2) == 2);
         }

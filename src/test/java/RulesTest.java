@@ -1,7 +1,6 @@
 /** Promise 11: register, and with it how values, SHADES and ORIGINS go through each instruction. */
 public final class RulesTest {
-    /** What can be said of r0 to r6 by this FILLING. */
-    private static final int FILLING = 12345;
+    private static final int FILLING = Check.SHADED_FILLING;
 
     public static void main(String[] args) {
         wrongInputs();
@@ -60,16 +59,12 @@ public final class RulesTest {
         Check.register(x, "mv", 6, 0x8081, 0, 0);
     }
 
-    /** Leaves in r1 the bits given, of which those of the shade are UNSET, of ORIGIN 2; likewise in r2 (3). */
     private static ShadeBench shaded(int mode, int bits1, int shade1, int bits2, int shade2, String line) {
-        int[] f = Check.filling(FILLING, 3);
-        return Check.ran(FILLING, mode, "and r1, r1, " + shade1, "xor r1, r1, " + (f[1] & shade1 ^ bits1),
-                "and r2, r2, " + shade2, "xor r2, r2, " + (f[2] & shade2 ^ bits2), line, "halt");
+        return Check.shaded(mode, new int[] {bits1, shade1, bits2, shade2}, line);
     }
 
     private static void shadeOf(String line, int mode, int[] operands, int value, int shade, int origin) {
-        ShadeBench x = shaded(mode, operands[0], operands[1], operands[2], operands[3], line);
-        Check.register(x, line + " in mode " + mode, 3, value, shade, origin);
+        Check.result(line, mode, operands, value, shade, origin);
     }
 
     private static void coarse() {
