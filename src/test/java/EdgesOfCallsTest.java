@@ -100,6 +100,16 @@ public final class EdgesOfCallsTest {
         Check.feed(x, "halt\nret\n$$$$$$$$$$$");
         Check.due("the first 4", x.end(4), 4);
         Check.due("one instruction", x.assemble(), 1);
+        for (String cut : new String[] {"haltaaaa", "halt9", "halt    a", "halt:", "halt,", "halt$"}) {
+            Check.feed(x, cut);
+            x.end(4);
+            Check.due("what was cut of " + cut + " counts for nothing", x.assemble(), 1);
+        }
+        Check.feed(x, "li r1, 0x123456789a");
+        Check.due("digits cut", x.end(16), 16);
+        Check.due("what was cut of a number", x.assemble(), 1);
+        x.run(1);
+        Check.due("what was left of a number", x.register(1, 0), 0x1234567);
         Check.feed(x, "$$$$$$$$$$$$$$$$$$$$");
         Check.due("none", x.end(0), 0);
         Check.due("feed behind none", x.feed(0x68616c74, 0x0a68616c, 0x740a6861, 0x6c743b3b, 0x3b3b3b3b), 20);

@@ -281,6 +281,14 @@ public final class EdgesOfHeapTest {
                 Check.due("begun anew: block(" + n + ", 2)", x.block(n, 2), due[n - 1]);
             }
         }
+        // Another program gives them back in another order.
+        Check.feed(x, "new r1, 300\nnew r2, 300\nnew r3, 300\nfree r3\nfree r2\nfree r1");
+        x.assemble();
+        x.run(9);
+        int[] other = {1, 0, 0};
+        for (int n = 1; n <= 3; n++) {
+            Check.due("another program: block(" + n + ", 2)", x.block(n, 2), other[n - 1]);
+        }
         ShadeBench y = Check.bench(FILLING, 0, "new r1, 300", "free r1", "new r1, 212", "free r1", "halt");
         for (int i = 0; i < 3; i++) {
             y.begin(i, 0);
@@ -466,6 +474,10 @@ public final class EdgesOfHeapTest {
         leaks(back, "a chain from the last to the first", 1, 1, 0);
         ShadeBench self = Check.ran(FILLING, 0, "zero r1, 4", "sw r1, r1, 0", "li r1, 0", "halt");
         leaks(self, "itself", 0);
+        ShadeBench place = Check.ran(FILLING, 0, "new r1, 8", "new r2, 512", "free r1", "free r2", "zero r3, 8", "sw r3, r3, 0", "li r1, 0", "li r3, 0",
+                "halt");
+        Check.due("at the place of one that is GONE", place.block(3, 0), 1032);
+        leaks(place, "itself, at the place of one that is GONE", Check.NONE, Check.NONE, 0);
         ShadeBench ring = Check.ran(FILLING, 0, "zero r1, 4", "zero r2, 4", "sw r1, r2, 0", "sw r2, r1, 0", "li r1, 0", "li r2, 0", "halt");
         leaks(ring, "a ring", 1, 1);
         ShadeBench inside = Check.ran(FILLING, 0, "new r1, 8", "zero r2, 4", "add r1, r1, 1", "sw r1, r2, 0", "li r1, 0", "li r2, 0", "halt");

@@ -335,6 +335,8 @@ public final class EdgesOfTextsTest {
             many.append('l').append(n).append(":\n");
         }
         count(many + "l199:", 0);
+        count(many + "l199: jmp l199", 1);
+        count(many + "l199: jmp l0", 1);
         Check.fault(many + "l0:", 3, many.length(), 200);
         Check.fault(many + "l198:", 3, many.length(), 200);
     }
