@@ -1546,6 +1546,7 @@ public final class ShadeBench {
         }
 
         private Datum registerOf(int k) {
+            // The assembler lets 0 to 7 alone come here; the mask makes it plain that the index is none other.
             return registers[operand(k) & STACK_POINTER];
         }
 
